@@ -22,7 +22,7 @@ final class Check {
         due(what, got ? 1 : 0, want ? 1 : 0);
     }
 
-    /** One number after the other of a letter, of an entry, ..., that a method tells. */
+    /** The letter has these numbers, to whom it goes being the first, and no more. */
     static void dueLetter(String what, LogServer server, int k, int... want) {
         for (int i = 0; i < want.length; i++) {
             due(what + ": number " + i + " of letter " + k, server.letter(k, i), want[i]);

@@ -149,6 +149,9 @@ public final class ElectionTest {
         Check.due("one of two seen is enough", y.state(0), 3);
         y.tick(31);
         Check.due("until that is too long ago", y.state(0), 0);
+        LogServer alone = Make.leader(0, 1);
+        alone.tick(1000);
+        Check.due("one alone sees itself", alone.state(0), 3);
     }
 
     private static void tickRefuses() {
@@ -271,6 +274,10 @@ public final class ElectionTest {
         x.tick(200);
         x.ask(1, 2, 0, 0);
         Check.due("who asked follows when it grants", x.state(0), 0);
+        LogServer y = Make.withLog(0, 7, 2);
+        y.ask(2, 2, 1, 2);
+        Check.due("a vote alone is a write too", y.state(14), 1);
+        Check.due("the leader stays", y.state(3), 1);
     }
 
     private static void askLooksAtTheLog() {

@@ -57,6 +57,7 @@ public final class FaceTest {
             }
         }
         Check.due("missing " + want, want.size(), 0);
+        noPrivateNamesake(type, methods);
         for (long seed = 0; seed < 400; seed++) {
             wildCalls(methods, new Random(seed));
         }
@@ -86,6 +87,17 @@ public final class FaceTest {
         // Reflection promises no order, and the wild calls are to be the same each time.
         all.sort(Comparator.comparing(Method::getName));
         return all;
+    }
+
+    private static void noPrivateNamesake(Class<LogServer> type, List<Method> face) {
+        List<Class<?>> classes = new ArrayList<>(Arrays.asList(type.getDeclaredClasses()));
+        classes.add(type);
+        for (Class<?> c : classes) {
+            for (Method m : c.getDeclaredMethods()) {
+                boolean same = face.stream().anyMatch(f -> f.getName().equals(m.getName()) && !f.equals(m));
+                Check.due("another " + m.getName() + " in " + c.getSimpleName(), same, false);
+            }
+        }
     }
 
     private static String told(Method m) {

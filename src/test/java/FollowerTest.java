@@ -213,6 +213,8 @@ public final class FollowerTest {
         x.sync();
         Check.dueEntry("behind COMMIT it may", x, 3, 2, 2, 9);
         Check.due("COMMIT", x.state(4), 3);
+        x.append(2, 2, 0, 0, 3, 4);
+        Check.dueLetter("entries of letters before do not count", x, 0, 2, 6, 2, 1, 0, 4);
         x.compact(1);
         x.sync();
         went = x.state(16);

@@ -5,6 +5,7 @@ public final class LeaderTest {
 
     public static void main(String[] args) {
         leads();
+        leadsAgain();
         appendedCommits();
         appendedMoves();
         appendedThatRefuses();
@@ -59,6 +60,37 @@ public final class LeaderTest {
         Check.dueLetter("the second", x, 0, 2, 5, 2, 1, 1, 0, 1, 1, 2, 0, 0);
     }
 
+    private static void leadsAgain() {
+        LogServer x = Make.leader(0, 7, 1);
+        x.appended(1, 1, true, 1, 9);
+        x.appended(2, 1, true, 1, 9);
+        x.command(1);
+        x.command(2);
+        x.sync();
+        x.appended(2, 1, true, 3, 9);
+        x.compact(300);
+        x.sync();
+        x.appended(1, 1, false, 1, 9);
+        x.tick(10);
+        x.appended(1, 1, false, 2, 9);
+        x.stored(1, 1, 3, 100, 9);
+        Check.due("OFFSET", x.peer(1, 4), 100);
+        x.hand(1);
+        x.go(1, 2);
+        x.answer(1, 3, true);
+        x.sync();
+        Check.due("leads again", x.state(0), 3);
+        Check.due("ROUND", x.state(15), 1);
+        Check.due("HANDING", x.state(11), -1);
+        int[] one = {5, 0, 1, 1, 0, 0, 10};
+        for (int what = 0; what < 7; what++) {
+            Check.due("all begins anew: " + what, x.peer(1, what), one[what]);
+            Check.due("all begins anew: " + what, x.peer(2, what), one[what]);
+        }
+        Check.due("its own MATCH", x.peer(0, 1), 3);
+        Check.due("FIRST", x.callFor(x.read()), 4);
+    }
+
     private static void appendedCommits() {
         LogServer x = Make.leader(0, 31, 1, 2);
         x.appended(1, 1, true, 1, 1);
@@ -100,6 +132,19 @@ public final class LeaderTest {
         Check.due("MATCH is at most LAST", x.peer(1, 1), 1);
         Check.due("NEXT behind it", x.peer(1, 0), 2);
         Check.due("ACK as told", x.peer(1, 5), 3);
+        LogServer y = leaderOfLog();
+        y.appended(1, 2, false, 1, 1);
+        y.tick(10);
+        y.tick(10);
+        Check.due("from the begin", y.letter(1, 3), 0);
+        y.command(9);
+        y.command(9);
+        y.sync();
+        Check.due("five, and one flies", y.peer(1, 0), 6);
+        y.appended(1, 2, true, 6, 1);
+        Check.due("NEXT behind what it has, and what was sent then", y.letter(0, 3), 6);
+        y.appended(1, 2, false, 7, 1);
+        Check.due("PROBING again", y.peer(1, 3), 1);
     }
 
     private static void appendedThatRefuses() {
@@ -173,8 +218,17 @@ public final class LeaderTest {
         Check.dueLetter("all of it", x, 0, 1, 5, 1, 5, 1, 2, 1, 6, 1, 2, 4, 1, 2, 5, 1, 2, 6, 1, 2, 7, 1, 2, 8, 1, 2, 9);
         Check.due("four again", x.peer(1, 2), 4);
         x.appended(2, 1, true, 1, 1);
-        Check.due("three letters bring all", x.peer(2, 2), 2);
+        Check.due("two letters bring all", x.peer(2, 2), 2);
         Check.due("NEXT", x.peer(2, 0), 14);
+        LogServer y = Make.leader(0, 7, 1);
+        for (int k = 0; k < 30; k++) {
+            y.command(k);
+        }
+        y.sync();
+        int went = y.state(16);
+        y.appended(1, 1, true, 1, 1);
+        Check.due("four in one go", y.state(16) - went, 4);
+        Check.due("24 entries", y.peer(1, 0), 26);
     }
 
     private static void beats() {
@@ -198,6 +252,9 @@ public final class LeaderTest {
         x.tick(10);
         Check.due("but in the next beat", x.letter(1, 7), 1);
         Check.due("its ACK is ROUND", x.peer(0, 5), 5);
+        LogServer y = Make.leader(1, 7, 2);
+        y.tick(10);
+        Check.due("server 0 was silent too", y.letter(1, 7), 1);
     }
 
     private static void onlyEntriesOfItsTermCount() {
@@ -207,6 +264,10 @@ public final class LeaderTest {
         x.appended(1, 2, true, 5, 1);
         Check.due("its own entry commits all", x.state(4), 5);
         Check.due("all are done", x.state(18), 4);
+        int call = x.command(8);
+        x.sync();
+        x.appended(1, 2, true, 6, 0);
+        Check.due("a command needs no round", x.call(call), 1);
     }
 
     private static void syncWrites() {
@@ -315,6 +376,16 @@ public final class LeaderTest {
         x.appended(1, 2, true, 5, 2);
         Check.due("both", x.call(call), 1);
         Check.due("now for COMMIT", x.callFor(x.read()), 5);
+        LogServer y = new LogServer(0, 7, 0L);
+        y.go(1, 0);
+        y.sync();
+        y.answer(1, 1, true);
+        y.read();
+        y.tick(10);
+        y.appended(1, 1, true, 1, 2);
+        Check.due("FIRST is not on its own disk", y.call(0), 0);
+        y.sync();
+        Check.due("the sync commits it, and answers", y.call(0), 1);
     }
 
     private static void readRefuses() {
@@ -346,6 +417,31 @@ public final class LeaderTest {
         x.appended(1, 1, true, 3, 1);
         Check.due("committed by the two", x.state(4), 3);
         Check.due("nothing more is written", x.state(8), 3);
+        LogServer y = Make.leader(0, 31, 1, 2);
+        for (int s = 1; s < 5; s++) {
+            y.appended(s, 1, true, 1, 1);
+        }
+        y.members(15);
+        y.sync();
+        y.appended(1, 1, true, 2, 1);
+        y.appended(3, 1, false, 2, 1);
+        y.appended(4, 1, true, 2, 1);
+        Check.due("joint is committed by others than all of NEW", y.state(4), 1);
+        y.appended(2, 1, true, 2, 1);
+        Check.due("NEW", y.state(9), 15);
+        Check.due("1 and 2 get it, 3 is probed and 4 gone", y.sync(), 2);
+        LogServer z = Make.leader(0, 31, 1, 2);
+        for (int s = 1; s < 5; s++) {
+            z.appended(s, 1, true, 1, 1);
+        }
+        z.members(7);
+        z.sync();
+        z.appended(1, 1, true, 2, 1);
+        Check.due("two of five", z.state(4), 1);
+        z.appended(4, 1, true, 2, 1);
+        Check.due("three of five, two of three", z.state(9), 7);
+        Check.due("the sender is no peer any more", z.sync(), 2);
+        Check.due("none to it", z.letter(0, 0), 2);
     }
 
     private static void membersInTwoSteps() {
@@ -376,6 +472,8 @@ public final class LeaderTest {
             Check.due("members(" + set + ")", x.members(set), false);
         }
         Check.due("nothing is done", x.state(8), 1);
+        Check.due("all seven", Make.leader(0, 127, 1, 2, 3).members(127), true);
+        Check.due("server 0 is no member", Make.leader(1, 6, 2).members(3), false);
         Check.due("the same ones", x.members(7), true);
         Check.due("not two at once", x.members(7), false);
         LogServer y = Make.leader(0, 7, 1);
@@ -436,6 +534,10 @@ public final class LeaderTest {
         x.appended(1, 1, true, 3, 1);
         Check.due("none", x.learners(0), true);
         Check.due("code", x.state(9), 7);
+        Check.due("1 gets it, 2 is probed", x.sync(), 1);
+        LogServer y = Make.leader(6, 64);
+        Check.due("all others", y.learners(63), true);
+        Check.due("six letters", y.sync(), 6);
     }
 
     private static void learnersRefuse() {
@@ -496,6 +598,15 @@ public final class LeaderTest {
         Check.due("longer ago", x.state(11), -1);
         Check.due("commands again", x.command(1), 0);
         Check.due("again", x.hand(2), true);
+        LogServer y = Make.leader(0, 7, 1);
+        y.tick(30);
+        y.hand(2);
+        y.tick(50);
+        Check.due("from when it was set", y.state(11), 2);
+        LogServer z = Make.leader(0, 7, 1);
+        z.hand(2);
+        z.tick(51);
+        Check.due("51 ago", z.state(11), -1);
     }
 
     private static void handRefuses() {

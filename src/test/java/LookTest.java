@@ -253,10 +253,13 @@ public final class LookTest {
         for (int k = 8; k < 40; k++) {
             Check.due("commands up to 15 are answered", x.call(k), k % 2 == 0 && k <= 26 ? 1 : 0);
         }
+        int late = x.command(5);
+        Check.due("a new one waits where an answered one was", x.call(late), 0);
         x.tick(10);
         x.appended(1, 1, true, 15, 2);
         x.ask(2, 2, 0, 0);
-        for (int k = 8; k < 40; k++) {
+        Check.outOfBounds("now that is the 33rd", () -> x.call(8));
+        for (int k = 9; k < 40; k++) {
             Check.due("reads are answered, others dropped", x.call(k), k % 2 == 1 || k <= 26 ? 1 : 2);
         }
     }

@@ -58,6 +58,8 @@ public final class SnapshotTest {
             Check.outOfBounds("none described, from " + s, () -> x.piece(s, -1, 0, 0, 0));
         }
         Check.illegal("none described", () -> x.piece(1, 1, 0, 0, 0));
+        LogServer young = new LogServer(2, 7, 0L);
+        Check.illegal("none described at first", () -> young.piece(1, 1, 0, 0, 0));
         int[] bad = {-1, 1000001, Integer.MAX_VALUE, Integer.MIN_VALUE};
         for (int n : bad) {
             refused(x, "term", n, 0, 1, 0);
@@ -277,6 +279,11 @@ public final class SnapshotTest {
         y.tick(10);
         y.stored(1, 1, 5, 0, 2);
         Check.due("a read is answered by it", y.call(2), 1);
+        y.stored(1, 1, 0, 0, 2);
+        Check.due("BASE 0 has no bytes: that is all of it", y.peer(1, 3), 1);
+        Check.due("so it begins behind it", y.letter(0, 0), 1);
+        Check.due("so it begins behind it", y.letter(0, 3), 0);
+        Check.due("MATCH stays", y.peer(1, 1), 3);
     }
 
     private static void storedIsChecked() {
@@ -298,6 +305,16 @@ public final class SnapshotTest {
     }
 
     private static void compactDrops() {
+        LogServer kinds = new LogServer(0, 7, 0L);
+        kinds.entry(1, 2, 5);
+        kinds.entry(2, 0, 6);
+        kinds.entry(3, 1, 7);
+        kinds.entry(4, 2, 8);
+        kinds.append(1, 4, 0, 0, 1, 0);
+        kinds.compact(1);
+        Check.dueEntry("the entries stay as they are", kinds, 2, 2, 0, 6);
+        Check.dueEntry("the entries stay as they are", kinds, 3, 3, 1, 7);
+        Check.dueEntry("the entries stay as they are", kinds, 4, 4, 2, 8);
         LogServer x = Make.withLog(0, 7, 1, 1, 2, 2);
         x.append(1, 2, 4, 2, 3, 0);
         Check.due("made", x.compact(1000000), true);
@@ -356,6 +373,18 @@ public final class SnapshotTest {
         x.sync();
         x.stored(1, 1, 3, 400, 1);
         Check.dueLetter("the new one is sent", x, 0, 1, 7, 1, 4, 1, 7, 77, 0, 77, 1);
+        LogServer y = Make.leader(1, 7, 2);
+        y.appended(2, 1, true, 1, 1);
+        y.compact(300);
+        y.sync();
+        y.appended(0, 1, false, 1, 1);
+        Check.due("NEXT is BASE: a piece", y.letter(0, 1), 7);
+        y.stored(0, 1, 1, 200, 1);
+        y.command(5);
+        y.sync();
+        y.appended(2, 1, true, 2, 1);
+        y.compact(300);
+        Check.due("OFFSET of server 0", y.peer(0, 4), 0);
     }
 
     /** A piece from server 1, whose round is where it begins. */
